@@ -380,6 +380,10 @@ public final class OldestDown {
             return m >= 0 && m < men && m < MEN;
         }
 
+        int ageOf(int m) {
+            return hasMan(m) ? age[m] : NONE;
+        }
+
         boolean put(int what, int who, int v) {
             if (v < 0 || v > mostOf(what)) {
                 return false;
@@ -1167,7 +1171,7 @@ public final class OldestDown {
             int tail = 0;
             for (int m = 0; m < MEN; m++) {
                 before[m] = NONE;
-                if (holds(sources, m)) {
+                if (holds(sources, m) && tail < MEN) {
                     queue[tail] = m;
                     tail++;
                 }
@@ -1266,7 +1270,7 @@ public final class OldestDown {
             if (i < 0 || i >= youngs || i >= MEN || j < 0 || j >= olds || j >= MEN) {
                 return 0;
             }
-            int older = told.age[old[j]] - told.age[young[i]];
+            int older = told.ageOf(old[j]) - told.ageOf(young[i]);
             return older > 0 ? PAIR - older : 0;
         }
 
@@ -1301,7 +1305,7 @@ public final class OldestDown {
                 for (int j = 0; j < olds && j < MEN; j++) {
                     int worth = holds(used, j) ? 0 : worth(i, j);
                     if (worth != 0 && worth + way(i + 1, used | 1 << j) == way(i, used)) {
-                        goer[young[i]] = old[j];
+                        goer[i] = old[j];
                         used |= 1 << j;
                         pairs++;
                         coin += PAIR - worth;
@@ -1312,8 +1316,17 @@ public final class OldestDown {
             switch (what) {
                 case 0: return pairs;
                 case 1: return coin;
-                default: return what >= 10 && what < 10 + MEN ? goer[what - 10] : NONE;
+                default: return goerFor(what - 10);
             }
+        }
+
+        private int goerFor(int man) {
+            for (int i = 0; i < youngs && i < MEN; i++) {
+                if (young[i] == man) {
+                    return goer[i];
+                }
+            }
+            return NONE;
         }
 
         int firstAsked(int suspects) {
@@ -1594,7 +1607,7 @@ public final class OldestDown {
             if (fault == 0) {
                 fault = f;
                 place = at >= 0 && at < places.length ? places[at] : NONE;
-                go(tokens - 1);
+                kind = END;
             }
         }
 
@@ -1642,28 +1655,39 @@ public final class OldestDown {
             sum();
             law.beginWhen();
             if (take(WHEN)) {
-                condition(0, 0);
+                condition(0);
             }
             need(';');
             law.endLine();
             lines++;
         }
 
-        /** B of the grammar at level 0, A at level 1, C at level 2, within so many open ones. */
-        private void condition(int level, int open) {
-            if (level < 2) {
-                condition(level + 1, open);
-                for (int i = 0; i < TAPE && take(level == 0 ? OR : AND); i++) {
-                    condition(level + 1, open);
-                    law.put(level == 0 ? Law.OR : Law.AND);
+        /** B and A of the grammar, within so many ( and not that are open. */
+        private void condition(int open) {
+            boolean more = true;
+            for (int ors = 0; ors <= TAPE && more; ors++) {
+                single(open);
+                for (int ands = 0; ands <= TAPE && take(AND); ands++) {
+                    single(open);
+                    law.put(Law.AND);
                 }
-            } else if ((kind == NOT || kind == '(') && open >= OPEN) {
+                if (ors > 0) {
+                    law.put(Law.OR);
+                }
+                more = take(OR);
+            }
+        }
+
+        /** C of the grammar. */
+        private void single(int open) {
+            int nots = 0;
+            while (open + nots < OPEN && take(NOT)) {
+                nots++;
+            }
+            if ((kind == NOT || kind == '(') && open + nots >= OPEN) {
                 fail(3);
-            } else if (take(NOT)) {
-                condition(2, open + 1);
-                law.put(Law.NOT);
             } else if (take('(')) {
-                condition(0, open + 1);
+                condition(open + nots + 1);
                 need(')');
             } else {
                 sum();
@@ -1672,29 +1696,32 @@ public final class OldestDown {
                 sum();
                 law.put(sign);
             }
-        }
-
-        private void sum() {
-            product();
-            for (int i = 0; i < TAPE && (kind == '+' || kind == '-'); i++) {
-                int sign = kind == '+' ? Law.ADD : Law.TAKE;
-                go(at + 1);
-                product();
-                law.put(sign);
+            for (int i = 0; i < nots && i < OPEN; i++) {
+                law.put(Law.NOT);
             }
         }
 
-        private void product() {
-            unit();
-            for (int i = 0; i < TAPE && (kind == '*' || kind == '/'); i++) {
-                if (take('*')) {
-                    unit();
-                    law.put(Law.TIMES);
-                } else {
-                    go(at + 1);
-                    law.put(Math.max(0, number(9999, 0)));
-                    law.put(Law.PART);
+        /** E and T of the grammar. */
+        private void sum() {
+            int sign = 0;
+            boolean more = true;
+            for (int i = 0; i <= TAPE && more; i++) {
+                unit();
+                for (int j = 0; j <= TAPE && (kind == '*' || kind == '/'); j++) {
+                    if (take('*')) {
+                        unit();
+                        law.put(Law.TIMES);
+                    } else {
+                        go(at + 1);
+                        law.put(Math.max(0, number(9999, 0)));
+                        law.put(Law.PART);
+                    }
                 }
+                if (sign != 0) {
+                    law.put(sign);
+                }
+                sign = kind == '+' ? Law.ADD : Law.TAKE;
+                more = take('+') || take('-');
             }
         }
 
