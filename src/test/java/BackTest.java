@@ -16,6 +16,9 @@ final class BackTest {
         image();
         imageHoldsTexts();
         imageHoldsNot();
+        imageHoldsTheBook();
+        imageHoldsSlippers();
+        imageHoldsCaptives();
         imageTwice();
         look();
         t.end();
@@ -267,6 +270,69 @@ final class BackTest {
         t.due("place stays", x.fault(1), 5);
         t.due("the tape stays", x.text(0), 1);
         t.due("nap", x.of(0, 12), 3);
+    }
+
+    /** Undoing goes behind the image, other DAYS are led to THE BOOK. */
+    private static void imageHoldsTheBook() {
+        OldestDown x = front();
+        Due.tell(x, 0, "fade 1000;");
+        x.days(2);
+        String was = all(x);
+        x.image(true);
+        x.undo();
+        x.undo();
+        Due.tell(x, 0, "call 1 when age = 80; fade 0;");
+        x.days(4);
+        x.image(false);
+        same("as it was", all(x), was);
+    }
+
+    private static void imageHoldsSlippers() {
+        OldestDown x = front();
+        x.slipper(1, 4, 0);
+        x.slipper(2, 3, 4);
+        t.due("left", x.left(), 3);
+        x.image(true);
+        x.slipper(-1, 0, 0);
+        x.slipper(2, 2, 2);
+        x.slipper(3, 3, 2);
+        t.due("left", x.left(), 4);
+        x.image(false);
+        t.due("left", x.left(), 3);
+        x.slipper(-1, 0, 0);
+        x.slipper(1, 2, 0);
+        x.image(true);
+        x.slipper(-1, 0, 0);
+        x.slipper(1, 4, 0);
+        x.image(false);
+        t.due("left", x.left(), 7);
+    }
+
+    /** Since when he is a CAPTIVE goes back, too. */
+    private static void imageHoldsCaptives() {
+        OldestDown x = new OldestDown();
+        x.man(0, 70, 9);
+        x.man(1, 70, 9);
+        x.set(0, 0, 0);
+        x.set(5, 0, 20);
+        Due.tell(x, 0, "step 9 when day < 1; step 9 when country = 0; step 0;");
+        x.days(1);
+        t.due("captive", x.of(0, 6), 2);
+        x.image(true);
+        x.days(4);
+        t.due("captive anew", x.of(0, 6), 2);
+        t.due("on day 4", x.book(4, 0), 4);
+        x.image(false);
+        x.days(2);
+        t.due("yet on day 2", x.of(0, 6), 2);
+        x.days(1);
+        t.due("home on day 3", x.of(0, 6), 0);
+        x.days(1);
+        x.undo();
+        x.undo();
+        t.due("yet on day 2", x.of(0, 6), 2);
+        x.days(1);
+        t.due("home on day 3", x.of(0, 6), 0);
     }
 
     private static void imageTwice() {

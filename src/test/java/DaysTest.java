@@ -111,6 +111,12 @@ final class DaysTest {
         Due.tell(x, 0, "step 2 when country = 1; step 0;");
         x.days(1);
         where(x, 1, 1, 11, 50);
+        OldestDown y = war(1, 70, 5);
+        y.set(4, 0, 1);
+        y.set(4, 15, 1);
+        y.days(3);
+        where(y, 0, 1, 1, 50);
+        t.due("the end is a hill", y.look(2), 1);
     }
 
     private static void naps() {

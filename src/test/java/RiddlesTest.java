@@ -105,6 +105,13 @@ final class RiddlesTest {
         Due.tell(y, 1, "7 tells 0 and 1; 0 tells 2 and 3; 1 tells 2; 2 tells 4 and 5; 3 tells 4; 4 tells 6; 5 tells 6;");
         t.due("two ways", y.knees(6, 6), 2);
         t.due("two ways", y.knees(6, 4), 2);
+        OldestDown z = manyMen(6);
+        z.teach(3, 1);
+        Due.tell(z, 1, "3 tells 0; 0 tells 1 and 2 and 4; 1 tells 5; 2 tells 5; 4 tells 5;");
+        t.due("one at the start", z.knees(1, 5), 1);
+        Due.tell(z, 1, "3 tells 0 and 4; 0 tells 1 and 2; 1 tells 5; 2 tells 5; 4 tells 1;");
+        t.due("two at the start", z.knees(1, 5), 2);
+        t.due("to him who stands first", z.knees(1, 0), 1);
     }
 
     private static void kneesOfMany() {
@@ -168,7 +175,10 @@ final class RiddlesTest {
         x.set(5, 0, 99);
         marching(x, 0, 12, 12, 39, 4095);
         marching(x, 0, 13, 12, -1, -1);
-        int[][] wrong = {{-1, 3, 3, 0}, {1, 3, 3, 0}, {0, -1, 3, 0}, {0, 16, 3, 0}, {0, 3, 0, 0}, {0, 3, 13, 0},
+        x.man(0, 60, 9);
+        x.set(5, 1, 99);
+        marching(x, 1, 15, 2, 24, 3);
+        int[][] wrong = {{1, 16, 2, 0}, {-1, 3, 3, 0}, {2, 3, 3, 0}, {0, -1, 3, 0}, {0, 16, 3, 0}, {0, 3, 0, 0}, {0, 3, 13, 0},
             {0, 3, 3, -1}, {0, 3, 3, 2}, {0, Integer.MIN_VALUE, 3, 0}, {0, 3, Integer.MAX_VALUE, 1}};
         for (int[] w : wrong) t.due("march " + w[0] + " " + w[1] + " " + w[2] + " " + w[3], x.march(w[0], w[1], w[2], w[3]), -1);
     }
@@ -290,6 +300,7 @@ final class RiddlesTest {
         t.due("of several the least", men(0, 60, 2, 0, 60, 7, 0, 60, 7, 1, 60, 1).ask(), 2);
         t.due("two against one", men(0, 60, 4, 0, 60, 6, 0, 60, 8).ask(), 4);
         t.due("odd ones", men(0, 60, 4, 0, 60, 4, 0, 60, 4, 0, 60, 8, 0, 60, 9, 0, 60, 9).ask(), 4);
+        t.due("twelve alike", manyMen(12).ask(), 1);
         OldestDown y = men(0, 60, 1, 0, 60, 1, 0, 60, 1, 0, 60, 5, 0, 60, 8);
         y.slipper(1, 3, 0);
         t.due("of left alone", y.ask(), 5);
@@ -388,6 +399,14 @@ final class RiddlesTest {
         treating(y, 4, 4);
         y.set(0, 0, 1);
         treating(y, 8, 7);
+        y.set(0, 0, 9);
+        y.teach(0, 3);
+        treating(y, 0, 0);
+        OldestDown z = men(0, 60, 3, 1, 60, 3);
+        z.teach(0, 0);
+        z.teach(1, 5);
+        Due.tell(z, 2, "fact 0 weighs 9; fact 5 weighs 8;");
+        treating(z, 8, 32);
     }
 
     private static void treatyOfNone() {
@@ -397,6 +416,8 @@ final class RiddlesTest {
         x.teach(0, 1);
         x.teach(1, 1);
         treating(x, -1, -1);
+        x.set(0, 0, 1);
+        treating(x, 1, 2);
         for (int what : new int[] {-1, 2, Integer.MIN_VALUE, Integer.MAX_VALUE}) t.due("another what", x.treaty(what), -1);
     }
 }

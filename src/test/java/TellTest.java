@@ -85,6 +85,8 @@ final class TellTest {
         t.due("coin", x.set(6, 0, 999), true);
         t.due("coin", x.of(0, 5), 999);
         t.due("coin of the other", x.of(1, 5), 0);
+        t.due("no coin", x.set(6, 0, 0), true);
+        t.due("coin", x.of(0, 5), 0);
     }
 
     private static void setWrongly() {
@@ -165,6 +167,9 @@ final class TellTest {
 
     private static void sendForMuchCoin() {
         OldestDown x = withFront();
+        t.due("send for none", x.send(2, 0, 0), true);
+        t.due("coin", x.of(0, 5), 30);
+        x.undo();
         x.set(6, 2, 980);
         t.due("send", x.send(2, 0, 25), true);
         t.due("999 at most", x.of(2, 5), 999);

@@ -145,6 +145,14 @@ final class TextTest {
         x.days(1);
         fade(x, "cell", 9);
         fade(x, "day", 2);
+        OldestDown y = new OldestDown();
+        y.man(0, 77, 6);
+        y.set(0, 0, 0);
+        y.set(4, 0, 1);
+        Due.tell(y, 0, "step 0;");
+        y.days(1);
+        fade(y, "cell", 0);
+        fade(y, "hill", 1);
     }
 
     private static void numbers() {
@@ -252,6 +260,14 @@ final class TextTest {
         t.due("the law changes", x.of(0, 12), 1);
         t.due("no fault", x.fault(0), 0);
         t.due("no place", x.fault(1), -1);
+        for (String word : new String[] {"calla", "callz", "callA", "callZ", "acall", "zcall", "Acall", "Zcall", "cal", "CALL"}) {
+            t.faulty(x, 0, word + " 1;", 1, 0);
+        }
+        String longest = "nap 9+" + times(196, "0+") + "1;";
+        t.due("a text of 400", longest.length(), 400);
+        t.faulty(x, 0, longest.replace(';', '+'), 1, 400);
+        t.due("a text of 400", Due.tell(x, 0, longest), 1);
+        t.due("nap", x.of(0, 12), 10);
         t.faulty(x, 0, "nap " + (char) 233 + ";", 1, 4);
         t.faulty(x, 0, "nap 1" + (char) 0 + ";", 1, 5);
     }

@@ -74,6 +74,12 @@ final class ThoughtTest {
         x.days(1);
         t.due("he is one now", x.of(0, 6), 2);
         lasting(x, 1, 0, 40, 40);
+        OldestDown z = war(0, 70, 9, 1, 70, 9);
+        z.set(5, 0, 40);
+        Due.tell(z, 0, "step 9 when day < 1; step 9 when country = 0 and day < 9; step 9 when day > 9; step 0;");
+        z.days(3);
+        // A CAPTIVE since day 0, so he is HOME on day 3, called on day 4, and comes to the other with as much breath.
+        lasting(z, -1, 0, 0, 0);
         OldestDown y = war(0, 70, 9, 1, 70, 9);
         y.set(5, 0, 40);
         y.set(2, 0, 1);
@@ -218,6 +224,12 @@ final class ThoughtTest {
         OldestDown w = war(1, 9, 9);
         Due.tell(w, 0, "call 1;");
         t.due("from", w.from(0), 0);
+        OldestDown v = war(0, 0, 9, 0, 0, 1);
+        Due.tell(v, 0, "call 1;");
+        t.due("age 0 is called in thought", v.lasts(0), 2);
+        Due.tell(v, 0, "call 1; step 9 when day > 0 and legs = 9; step 0;");
+        t.due("age 0 is called in thought", v.soonest(0, 1), 3);
+        t.due("of age 0", v.from(0), 0);
     }
 
     private static void wrongly() {
