@@ -340,8 +340,8 @@ public final class OldestDown {
         final int[] age = new int[MEN];
         final int[] legs = new int[MEN];
         final int[] tells = new int[MEN];
-        final int[] want = new int[2];
-        final int[] weight = new int[FACTS];
+        final int[] want = {2, 2};
+        final int[] weight = {1, 1, 1, 1, 1, 1, 1, 1};
         int keep = 1;
         int rain;
         int tea = 3;
@@ -351,11 +351,6 @@ public final class OldestDown {
         final Law law = new Law();
         final Orders orders = new Orders();
         final Slippers slippers = new Slippers();
-
-        Told() {
-            Arrays.fill(want, 2);
-            Arrays.fill(weight, 1);
-        }
 
         void become(Told other) {
             men = other.men;

@@ -31,16 +31,6 @@ final class DaysTest {
         t.end();
     }
 
-    /** Facts and KEEP let WAR last as long as nobody comes through. */
-    private static OldestDown war(int... countryAgeLegs) {
-        OldestDown x = new OldestDown();
-        for (int i = 0; i + 2 < countryAgeLegs.length; i += 3) {
-            x.man(countryAgeLegs[i], countryAgeLegs[i + 1], countryAgeLegs[i + 2]);
-        }
-        x.set(0, 0, 0);
-        return x;
-    }
-
     private static void line(OldestDown x, int i, int... due) {
         for (int what = 0; what < 4; what++) t.due("book " + i + " " + what, x.book(i, what), due[what]);
     }
@@ -52,7 +42,7 @@ final class DaysTest {
     }
 
     private static void called() {
-        OldestDown x = war(0, 70, 1, 0, 80, 1, 0, 80, 1, 0, 58, 1, 0, 59, 1);
+        OldestDown x = Due.war(0, 70, 1, 0, 80, 1, 0, 80, 1, 0, 58, 1, 0, 59, 1);
         t.due("war", x.days(1), 1);
         line(x, 0, 0, 0, 1, 0);
         t.due("one a day", x.look(7), 1);
@@ -75,7 +65,7 @@ final class DaysTest {
     }
 
     private static void calledAlike() {
-        OldestDown x = war(0, 60, 1, 0, 90, 1, 0, 90, 1, 0, 91, 1);
+        OldestDown x = Due.war(0, 60, 1, 0, 90, 1, 0, 90, 1, 0, 91, 1);
         Due.tell(x, 0, "call 200 when age < 91; call 119; step 0;");
         x.set(3, 0, 9);
         x.days(4);
@@ -84,7 +74,7 @@ final class DaysTest {
     }
 
     private static void calledOfBoth() {
-        OldestDown x = war(1, 99, 1, 0, 70, 1);
+        OldestDown x = Due.war(1, 99, 1, 0, 70, 1);
         x.days(1);
         line(x, 0, 0, 0, 1, 0);
         line(x, 1, 0, 0, 0, 15);
@@ -93,7 +83,7 @@ final class DaysTest {
     }
 
     private static void hills() {
-        OldestDown x = war(0, 70, 4, 1, 70, 4);
+        OldestDown x = Due.war(0, 70, 4, 1, 70, 4);
         x.set(4, 2, 1);
         x.set(4, 4, 1);
         x.set(4, 11, 1);
@@ -111,7 +101,7 @@ final class DaysTest {
         Due.tell(x, 0, "step 2 when country = 1; step 0;");
         x.days(1);
         where(x, 1, 1, 11, 50);
-        OldestDown y = war(1, 70, 5);
+        OldestDown y = Due.war(1, 70, 5);
         y.set(4, 0, 1);
         y.set(4, 15, 1);
         y.days(3);
@@ -120,7 +110,7 @@ final class DaysTest {
     }
 
     private static void naps() {
-        OldestDown x = war(0, 70, 4, 1, 70, 4);
+        OldestDown x = Due.war(0, 70, 4, 1, 70, 4);
         Due.tell(x, 0, "nap 30 when breath < 80 and country = 0; nap 30 * hill; step 1 + breath / 99;");
         x.set(4, 13, 1);
         x.days(2);
@@ -137,7 +127,7 @@ final class DaysTest {
     }
 
     private static void rests() {
-        OldestDown x = war(0, 70, 4, 1, 70, 4, 0, 30, 1);
+        OldestDown x = Due.war(0, 70, 4, 1, 70, 4, 0, 30, 1);
         Due.tell(x, 0, "nap 50;");
         Due.tell(x, 3, "on 0 rest 0; on 1 rest 1; on 1 rest 0; on 1 go 0;");
         t.due("told to rest", x.country(0, 4), 1);
@@ -158,7 +148,7 @@ final class DaysTest {
     }
 
     private static void bounds() {
-        OldestDown x = war(0, 70, 4);
+        OldestDown x = Due.war(0, 70, 4);
         t.due("days 0", x.days(0), -1);
         t.due("days -1", x.days(-1), -1);
         t.due("days 61", x.days(61), -1);
@@ -178,7 +168,7 @@ final class DaysTest {
     }
 
     private static void alikeFight() {
-        OldestDown x = war(0, 70, 9, 1, 70, 9);
+        OldestDown x = Due.war(0, 70, 9, 1, 70, 9);
         x.set(5, 0, 51);
         x.set(5, 1, 51);
         x.days(1);
@@ -194,7 +184,7 @@ final class DaysTest {
 
     /** Three of COUNTRY 0 stand at CELL 0; one of COUNTRY 1 comes to them on day 4. */
     private static OldestDown threeAtHomeCell() {
-        OldestDown x = war(0, 90, 1, 0, 80, 1, 0, 80, 1, 1, 70, 9);
+        OldestDown x = Due.war(0, 90, 1, 0, 80, 1, 0, 80, 1, 1, 70, 9);
         x.set(3, 0, 3);
         Due.tell(x, 0, "step 0;");
         x.days(3);
@@ -223,7 +213,7 @@ final class DaysTest {
     }
 
     private static void fightInTheMiddle() {
-        OldestDown x = war(0, 90, 9, 0, 80, 2, 1, 90, 2, 1, 80, 9);
+        OldestDown x = Due.war(0, 90, 9, 0, 80, 2, 1, 90, 2, 1, 80, 9);
         Due.tell(x, 0, "step 5 when country = 0 and age = 90; step 5 when country = 1 and age = 80;"
             + "step 5 when country = 0 and day < 2; step 4 when day > 1; step 0;");
         Due.tell(x, 3, "on 0 rest 1; on 0 rest 0; on 1 rest 0;");
@@ -257,7 +247,7 @@ final class DaysTest {
     }
 
     private static void peaceOfTheOther() {
-        OldestDown x = war(1, 70, 8, 0, 20, 1);
+        OldestDown x = Due.war(1, 70, 8, 0, 20, 1);
         t.due("war", x.days(2), 2);
         t.due("peace", x.look(2), 0);
         where(x, 0, 0, -1, 50);
@@ -265,7 +255,7 @@ final class DaysTest {
     }
 
     private static void guardedEnd() {
-        OldestDown x = war(0, 70, 9, 1, 70, 1);
+        OldestDown x = Due.war(0, 70, 9, 1, 70, 1);
         Due.tell(x, 0, "step 0 when country = 1;");
         x.days(2);
         where(x, 0, 1, 15, 25);
@@ -277,7 +267,7 @@ final class DaysTest {
     }
 
     private static void teaTime() {
-        OldestDown x = war(0, 70, 9, 1, 70, 9);
+        OldestDown x = Due.war(0, 70, 9, 1, 70, 9);
         Due.tell(x, 0, "step 9 when day < 1; step 0;");
         x.set(5, 0, 40);
         x.set(2, 0, 2);
@@ -290,7 +280,7 @@ final class DaysTest {
         line(x, 3, 2, 5, 0, 0);
         x.days(1);
         line(x, 4, 3, 0, 0, 0);
-        OldestDown y = war(0, 70, 9, 1, 70, 9);
+        OldestDown y = Due.war(0, 70, 9, 1, 70, 9);
         y.set(5, 0, 40);
         y.set(2, 0, 0);
         y.days(1);
@@ -303,14 +293,14 @@ final class DaysTest {
 
     /** Lines 5 stand ahead of 4; who isn't kept long enough has none. */
     private static void peaceBeforeTea() {
-        OldestDown x = war(0, 70, 9, 1, 70, 9);
+        OldestDown x = Due.war(0, 70, 9, 1, 70, 9);
         x.set(5, 0, 40);
         x.days(3);
         t.due("peace ahead of tea's end", x.look(2), 0);
         where(x, 0, 0, -1, 40);
         line(x, 3, 1, 4, -1, 0);
         t.due("lines", x.look(7), 4);
-        OldestDown y = war(0, 70, 9, 1, 70, 9);
+        OldestDown y = Due.war(0, 70, 9, 1, 70, 9);
         y.set(5, 0, 40);
         y.set(2, 0, 1);
         y.days(2);
@@ -360,7 +350,7 @@ final class DaysTest {
     }
 
     private static void tellsOn() {
-        OldestDown x = war(0, 20, 1, 0, 20, 1, 0, 20, 1, 1, 20, 1);
+        OldestDown x = Due.war(0, 20, 1, 0, 20, 1, 0, 20, 1, 1, 20, 1);
         Due.tell(x, 0, "fade 0;");
         Due.tell(x, 1, "0 tells 1; 1 tells 2; 3 tells 0;");
         x.teach(0, 1);
@@ -379,7 +369,7 @@ final class DaysTest {
     }
 
     private static void tellsOnlyAtHome() {
-        OldestDown x = war(0, 80, 1, 0, 20, 1, 0, 20, 1);
+        OldestDown x = Due.war(0, 80, 1, 0, 20, 1, 0, 20, 1);
         Due.tell(x, 0, "fade 0; step 0;");
         Due.tell(x, 1, "0 tells 1; 1 tells 0 and 2;");
         x.teach(0, 1);
@@ -399,7 +389,7 @@ final class DaysTest {
 
     private static void draws() {
         for (int draw = 49; draw <= 50; draw++) {
-            OldestDown x = war(0, 20, 1, 0, 20, 1, 0, 20, 1);
+            OldestDown x = Due.war(0, 20, 1, 0, 20, 1, 0, 20, 1);
             x.teach(1, 3);
             x.teach(1, 5);
             int s = stateWithDraw(draw);
@@ -409,7 +399,7 @@ final class DaysTest {
             t.due("one draw, for him alone", x.look(8), s * 1664525 + 1013904223);
             t.due("a line, if he forgot", x.look(7), draw < 50 ? 1 : 0);
         }
-        OldestDown y = war(0, 20, 1);
+        OldestDown y = Due.war(0, 20, 1);
         y.state(77);
         y.days(5);
         t.due("no draws for who knows nothing", y.look(8), 77);
@@ -420,7 +410,7 @@ final class DaysTest {
     }
 
     private static void forgetsLeast() {
-        OldestDown x = war(0, 20, 1, 1, 20, 1);
+        OldestDown x = Due.war(0, 20, 1, 1, 20, 1);
         Due.tell(x, 0, "fade 1000;");
         x.teach(1, 7);
         x.teach(1, 2);
@@ -451,7 +441,7 @@ final class DaysTest {
     }
 
     private static void fullBook() {
-        OldestDown x = war();
+        OldestDown x = Due.war();
         for (int m = 0; m < 12; m++) x.man(0, 20, 1);
         Due.tell(x, 0, "fade 1000;");
         for (int round = 0; round < 2; round++) {
@@ -465,7 +455,7 @@ final class DaysTest {
     }
 
     private static void lastDays() {
-        OldestDown x = war();
+        OldestDown x = Due.war();
         for (int i = 0; i < 166; i++) x.days(60);
         t.due("day", x.look(1), 9960);
         t.due("beyond 9999", x.days(40), -1);
@@ -477,7 +467,7 @@ final class DaysTest {
     }
 
     private static void countries() {
-        OldestDown x = war(0, 80, 3, 1, 80, 3, 0, 70, 3);
+        OldestDown x = Due.war(0, 80, 3, 1, 80, 3, 0, 70, 3);
         x.teach(0, 1);
         x.teach(2, 1);
         x.teach(2, 4);

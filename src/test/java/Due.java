@@ -20,6 +20,21 @@ final class Due {
         }
     }
 
+    static OldestDown men(int... countryAgeLegs) {
+        OldestDown x = new OldestDown();
+        for (int i = 0; i + 2 < countryAgeLegs.length; i += 3) {
+            x.man(countryAgeLegs[i], countryAgeLegs[i + 1], countryAgeLegs[i + 2]);
+        }
+        return x;
+    }
+
+    /** KEEP 0 lets WAR last as long as nobody comes through. */
+    static OldestDown war(int... countryAgeLegs) {
+        OldestDown x = men(countryAgeLegs);
+        x.set(0, 0, 0);
+        return x;
+    }
+
     /** Puts a text on the TAPE behind what it has. */
     static void feed(OldestDown x, String text) {
         int has = 0;

@@ -27,14 +27,6 @@ final class RiddlesTest {
         t.end();
     }
 
-    private static OldestDown men(int... countryAgeLegs) {
-        OldestDown x = new OldestDown();
-        for (int i = 0; i + 2 < countryAgeLegs.length; i += 3) {
-            x.man(countryAgeLegs[i], countryAgeLegs[i + 1], countryAgeLegs[i + 2]);
-        }
-        return x;
-    }
-
     private static OldestDown manyMen(int n) {
         OldestDown x = new OldestDown();
         for (int m = 0; m < n; m++) x.man(m % 2, 60, 3);
@@ -63,7 +55,7 @@ final class RiddlesTest {
     }
 
     private static void hearsWherever() {
-        OldestDown x = men(0, 80, 1, 0, 20, 1);
+        OldestDown x = Due.men(0, 80, 1, 0, 20, 1);
         x.set(0, 0, 0);
         x.teach(0, 1);
         Due.tell(x, 1, "0 tells 1;");
@@ -131,7 +123,7 @@ final class RiddlesTest {
     }
 
     private static void march() {
-        OldestDown x = men(0, 60, 3, 1, 20, 9);
+        OldestDown x = Due.men(0, 60, 3, 1, 20, 9);
         marching(x, 0, 6, 3, 30, 6);
         marching(x, 0, 3, 1, 35, 1);
         marching(x, 0, 1, 1, 45, 1);
@@ -157,7 +149,7 @@ final class RiddlesTest {
     }
 
     private static void marchAlike() {
-        OldestDown x = men(0, 60, 3);
+        OldestDown x = Due.men(0, 60, 3);
         x.set(5, 0, 99);
         // rest, go, go: 69; go, rest, go and go, go, rest: 79
         marching(x, 0, 6, 3, 79, 5);
@@ -171,7 +163,7 @@ final class RiddlesTest {
     }
 
     private static void marchBounds() {
-        OldestDown x = men(0, 60, 1);
+        OldestDown x = Due.men(0, 60, 1);
         x.set(5, 0, 99);
         marching(x, 0, 12, 12, 39, 4095);
         marching(x, 0, 13, 12, -1, -1);
@@ -255,7 +247,7 @@ final class RiddlesTest {
     }
 
     private static void slipper() {
-        OldestDown x = men(0, 60, 3);
+        OldestDown x = Due.men(0, 60, 3);
         int[][] wrong = {{-2, 0, 0}, {31, 0, 0}, {1, -1, 0}, {1, 16, 0}, {1, 0, -1}, {1, 0, 10}, {Integer.MIN_VALUE, 0, 0}};
         for (int[] w : wrong) t.due("slipper " + w[0] + " " + w[1] + " " + w[2], x.slipper(w[0], w[1], w[2]), -1);
         t.due("none", x.look(13), 0);
@@ -270,7 +262,7 @@ final class RiddlesTest {
     }
 
     private static void left() {
-        OldestDown x = men(0, 60, 1, 1, 60, 2, 0, 20, 3, 1, 60, 4, 0, 60, 2);
+        OldestDown x = Due.men(0, 60, 1, 1, 60, 2, 0, 20, 3, 1, 60, 4, 0, 60, 2);
         t.due("all", x.left(), 31);
         x.slipper(2, 4, 0);
         t.due("k is two legs", x.left(), 30);
@@ -289,25 +281,25 @@ final class RiddlesTest {
     }
 
     private static void ask() {
-        OldestDown x = men(0, 60, 1, 1, 60, 2);
+        OldestDown x = Due.men(0, 60, 1, 1, 60, 2);
         t.due("halves", x.ask(), 1);
         x.slipper(1, 2, 0);
         t.due("one alone", x.ask(), -1);
         x.slipper(0, 1, 0);
         t.due("nobody", x.ask(), -1);
         t.due("without men", new OldestDown().ask(), -1);
-        t.due("all alike: those at most l are none ahead of it, all behind", men(0, 60, 9, 0, 60, 9).ask(), 1);
-        t.due("of several the least", men(0, 60, 2, 0, 60, 7, 0, 60, 7, 1, 60, 1).ask(), 2);
-        t.due("two against one", men(0, 60, 4, 0, 60, 6, 0, 60, 8).ask(), 4);
-        t.due("odd ones", men(0, 60, 4, 0, 60, 4, 0, 60, 4, 0, 60, 8, 0, 60, 9, 0, 60, 9).ask(), 4);
+        t.due("all alike: those at most l are none ahead of it, all behind", Due.men(0, 60, 9, 0, 60, 9).ask(), 1);
+        t.due("of several the least", Due.men(0, 60, 2, 0, 60, 7, 0, 60, 7, 1, 60, 1).ask(), 2);
+        t.due("two against one", Due.men(0, 60, 4, 0, 60, 6, 0, 60, 8).ask(), 4);
+        t.due("odd ones", Due.men(0, 60, 4, 0, 60, 4, 0, 60, 4, 0, 60, 8, 0, 60, 9, 0, 60, 9).ask(), 4);
         t.due("twelve alike", manyMen(12).ask(), 1);
-        OldestDown y = men(0, 60, 1, 0, 60, 1, 0, 60, 1, 0, 60, 5, 0, 60, 8);
+        OldestDown y = Due.men(0, 60, 1, 0, 60, 1, 0, 60, 1, 0, 60, 5, 0, 60, 8);
         y.slipper(1, 3, 0);
         t.due("of left alone", y.ask(), 5);
     }
 
     private static void forgets() {
-        OldestDown x = men(0, 60, 3);
+        OldestDown x = Due.men(0, 60, 3);
         t.due("nothing known", x.forgets(0, 0), 1000000);
         t.due("nothing known", x.forgets(0, 60), 1000000);
         x.teach(0, 3);
@@ -331,7 +323,7 @@ final class RiddlesTest {
 
     /** Fade is what THE LAW tells now, though he will know fewer and it will be later. */
     private static void forgetsAsNow() {
-        OldestDown x = men(0, 60, 3);
+        OldestDown x = Due.men(0, 60, 3);
         x.teach(0, 0);
         x.teach(0, 1);
         Due.tell(x, 0, "fade 1000 when facts = 2 and day = 0; fade 0;");
@@ -341,7 +333,7 @@ final class RiddlesTest {
 
     private static void last() {
         t.due("without men", new OldestDown().last(), -1);
-        OldestDown x = men(0, 60, 3, 1, 70, 3, 0, 70, 3, 1, 69, 3);
+        OldestDown x = Due.men(0, 60, 3, 1, 70, 3, 0, 70, 3, 1, 69, 3);
         t.due("nobody knows: the oldest", x.last(), 1);
         x.teach(3, 7);
         t.due("who knows most", x.last(), 3);
@@ -360,7 +352,7 @@ final class RiddlesTest {
     }
 
     private static void treaty() {
-        OldestDown x = men(0, 60, 3, 1, 60, 3, 1, 60, 3);
+        OldestDown x = Due.men(0, 60, 3, 1, 60, 3, 1, 60, 3);
         treating(x, 0, 0);
         x.teach(0, 1);
         x.teach(0, 2);
@@ -383,7 +375,7 @@ final class RiddlesTest {
     }
 
     private static void treatyAlike() {
-        OldestDown x = men(0, 60, 3, 1, 60, 3);
+        OldestDown x = Due.men(0, 60, 3, 1, 60, 3);
         for (int f = 1; f < 5; f++) x.teach(0, f);
         for (int f = 3; f < 8; f++) x.teach(1, f);
         Due.tell(x, 2, "fact 1 weighs 2; fact 2 weighs 2; fact 3 weighs 4; fact 4 weighs 4; fact 5 weighs 8; fact 6 weighs 0;");
@@ -392,7 +384,7 @@ final class RiddlesTest {
         treating(x, 4, 8);
         x.set(0, 0, 11);
         treating(x, 2, 2);
-        OldestDown y = men(0, 60, 3, 1, 60, 3);
+        OldestDown y = Due.men(0, 60, 3, 1, 60, 3);
         for (int m = 0; m < 2; m++) for (int f = 0; f < 3; f++) y.teach(m, f);
         Due.tell(y, 2, "fact 0 weighs 2; fact 1 weighs 2; fact 2 weighs 4;");
         y.set(0, 0, 5);
@@ -402,7 +394,7 @@ final class RiddlesTest {
         y.set(0, 0, 9);
         y.teach(0, 3);
         treating(y, 0, 0);
-        OldestDown z = men(0, 60, 3, 1, 60, 3);
+        OldestDown z = Due.men(0, 60, 3, 1, 60, 3);
         z.teach(0, 0);
         z.teach(1, 5);
         Due.tell(z, 2, "fact 0 weighs 9; fact 5 weighs 8;");
@@ -410,7 +402,7 @@ final class RiddlesTest {
     }
 
     private static void treatyOfNone() {
-        OldestDown x = men(0, 60, 3, 1, 60, 3);
+        OldestDown x = Due.men(0, 60, 3, 1, 60, 3);
         x.set(0, 0, 0);
         treating(x, -1, -1);
         x.teach(0, 1);

@@ -20,15 +20,6 @@ final class ThoughtTest {
         t.end();
     }
 
-    private static OldestDown war(int... countryAgeLegs) {
-        OldestDown x = new OldestDown();
-        for (int i = 0; i + 2 < countryAgeLegs.length; i += 3) {
-            x.man(countryAgeLegs[i], countryAgeLegs[i + 1], countryAgeLegs[i + 2]);
-        }
-        x.set(0, 0, 0);
-        return x;
-    }
-
     private static void lasting(OldestDown x, int... due) {
         for (int what = 0; what < 4; what++) t.due("lasts " + what, x.lasts(what), due[what]);
     }
@@ -41,7 +32,7 @@ final class ThoughtTest {
     }
 
     private static void lasts() {
-        OldestDown x = war(0, 80, 4, 1, 20, 1, 1, 20, 1);
+        OldestDown x = Due.war(0, 80, 4, 1, 20, 1, 1, 20, 1);
         x.set(5, 2, 7);
         lasting(x, 4, 0, 50, 57);
         x.set(4, 4, 1);
@@ -54,7 +45,7 @@ final class ThoughtTest {
     }
 
     private static void lastsNinetyNine() {
-        OldestDown x = war(0, 80, 4);
+        OldestDown x = Due.war(0, 80, 4);
         Due.tell(x, 0, "step 1 when day > 83; step 0;");
         lasting(x, 99, 0, 50, 0);
         Due.tell(x, 0, "step 1 when day > 84; step 0;");
@@ -68,19 +59,19 @@ final class ThoughtTest {
     }
 
     private static void captives() {
-        OldestDown x = war(0, 70, 9, 1, 70, 9);
+        OldestDown x = Due.war(0, 70, 9, 1, 70, 9);
         x.set(5, 0, 40);
         lasting(x, 2, 1, 40, 40);
         x.days(1);
         t.due("he is one now", x.of(0, 6), 2);
         lasting(x, 1, 0, 40, 40);
-        OldestDown z = war(0, 70, 9, 1, 70, 9);
+        OldestDown z = Due.war(0, 70, 9, 1, 70, 9);
         z.set(5, 0, 40);
         Due.tell(z, 0, "step 9 when day < 1; step 9 when country = 0 and day < 9; step 9 when day > 9; step 0;");
         z.days(3);
         // A CAPTIVE since day 0, so he is HOME on day 3, called on day 4, and comes to the other with as much breath.
         lasting(z, -1, 0, 0, 0);
-        OldestDown y = war(0, 70, 9, 1, 70, 9);
+        OldestDown y = Due.war(0, 70, 9, 1, 70, 9);
         y.set(5, 0, 40);
         y.set(2, 0, 1);
         // He is back the day behind each fight and called again, on days 0, 2, 4, 6, 8; on day 10 both have 40.
@@ -89,7 +80,7 @@ final class ThoughtTest {
     }
 
     private static void nothingStays() {
-        OldestDown x = war(0, 70, 9, 1, 70, 9);
+        OldestDown x = Due.war(0, 70, 9, 1, 70, 9);
         x.set(5, 0, 40);
         x.teach(0, 3);
         x.state(4711);
@@ -137,7 +128,7 @@ final class ThoughtTest {
     }
 
     private static void soonest() {
-        OldestDown x = war(0, 20, 3, 0, 20, 8, 0, 20, 8, 1, 30, 5, 1, 30, 7, 1, 30, 9);
+        OldestDown x = Due.war(0, 20, 3, 0, 20, 8, 0, 20, 8, 1, 30, 5, 1, 30, 7, 1, 30, 9);
         t.due("war lasts", x.lasts(0), -1);
         t.due("soonest", x.soonest(0, 0), 1);
         t.due("days", x.soonest(0, 1), 2);
@@ -151,7 +142,7 @@ final class ThoughtTest {
 
     /** Who is in the field leaves others of those wanted at home. */
     private static void soonestOfOne() {
-        OldestDown x = war(0, 90, 1, 0, 20, 5);
+        OldestDown x = Due.war(0, 90, 1, 0, 20, 5);
         x.set(3, 0, 1);
         t.due("lasts", x.lasts(0), 15);
         t.due("soonest", x.soonest(0, 0), 1);
@@ -163,7 +154,7 @@ final class ThoughtTest {
     }
 
     private static void soonestOfNobody() {
-        OldestDown x = war(0, 90, 1, 1, 20, 1);
+        OldestDown x = Due.war(0, 90, 1, 1, 20, 1);
         x.days(1);
         t.due("he is in the field", x.soonest(0, 0), -1);
         t.due("days", x.soonest(0, 1), -1);
@@ -190,7 +181,7 @@ final class ThoughtTest {
     }
 
     private static void from() {
-        OldestDown x = war(0, 80, 1, 0, 70, 9);
+        OldestDown x = Due.war(0, 80, 1, 0, 70, 9);
         x.set(3, 0, 1);
         Due.tell(x, 0, "call 120 - age;");
         t.due("from", x.from(0), 70);
@@ -214,17 +205,17 @@ final class ThoughtTest {
         x.days(1);
         t.due("from in peace", x.from(0), 120);
         t.due("days in peace", x.from(1), 0);
-        OldestDown y = war(0, 50, 3);
+        OldestDown y = Due.war(0, 50, 3);
         t.due("longer by each", y.from(0), -1);
         t.due("longer by each", y.from(1), -1);
         Due.tell(y, 0, "call 1;");
         t.due("from", y.from(0), 50);
-        OldestDown z = war(1, 120, 9);
+        OldestDown z = Due.war(1, 120, 9);
         t.due("from", z.from(0), 120);
-        OldestDown w = war(1, 9, 9);
+        OldestDown w = Due.war(1, 9, 9);
         Due.tell(w, 0, "call 1;");
         t.due("from", w.from(0), 0);
-        OldestDown v = war(0, 0, 9, 0, 0, 1);
+        OldestDown v = Due.war(0, 0, 9, 0, 0, 1);
         Due.tell(v, 0, "call 1;");
         t.due("age 0 is called in thought", v.lasts(0), 2);
         Due.tell(v, 0, "call 1; step 9 when day > 0 and legs = 9; step 0;");
