@@ -306,6 +306,10 @@ final class BackTest {
         x.slipper(1, 4, 0);
         x.image(false);
         t.due("left", x.left(), 7);
+        x.slipper(-1, 0, 0);
+        x.slipper(0, 2, 0);
+        x.image(false);
+        t.due("left", x.left(), 7);
     }
 
     /** Since when he is a CAPTIVE goes back, too. */

@@ -166,6 +166,7 @@ final class TextTest {
         fade(x, "10-3+4", 11);
         fade(x, "100/7*7", 98);
         fade(x, "100*7/7/3", 33);
+        fade(x, "age/1/2", 38);
         fade(x, "500+0-7/2", 497);
         fade(x, "500-age*legs+legs*age/6", 115);
         fade(x, "9999", 1000);

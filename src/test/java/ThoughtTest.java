@@ -221,6 +221,10 @@ final class ThoughtTest {
         Due.tell(v, 0, "call 1; step 9 when day > 0 and legs = 9; step 0;");
         t.due("age 0 is called in thought", v.soonest(0, 1), 3);
         t.due("of age 0", v.from(0), 0);
+        OldestDown u = Due.war(0, 0, 9, 1, 20, 1);
+        Due.tell(u, 0, "call 1 when age = 0; call 0;");
+        u.set(5, 0, 99);
+        t.due("age 0 is called against him", u.soonest(1, 1), 3);
     }
 
     private static void wrongly() {
