@@ -1,6 +1,9 @@
 import java.util.Random;
 
-/** Calls with any arguments in any state: none throws, and the same calls give the same answers. */
+/**
+ * Holds the class against LANGUAGE.md, rule 7: "No call may ever throw or fail to end, for any arguments in any
+ * state", and rule 13: "the same calls always give the same answers".
+ */
 final class AnyCallsTest {
     private static final int RUNS = 400;
     private static final int[] EDGES = {Integer.MIN_VALUE, Integer.MAX_VALUE, -2, -1, 0, 1, 2, 3, 5, 7, 8, 9, 10, 11, 12,
@@ -22,7 +25,8 @@ final class AnyCallsTest {
         for (int seed = 0; seed < runs; seed++) {
             t.due("run " + seed, new AnyCallsTest(seed).run(), new AnyCallsTest(seed).run());
         }
-        t.end();
+        System.out.println(runs - t.wrong() + " passed, " + t.wrong() + " failed");
+        if (t.wrong() != 0) System.exit(1);
     }
 
     private long run() {
