@@ -304,15 +304,30 @@ final class DaySentences {
         t.where(x, 0, 1, 0, 70);
     }
 
+    @Sentence(of = "Terms 3", says = "Who rests, BREATH is 10 more (99 at most).")
+    static void restsOfTheOther(Due t) {
+        OldestDown x = Due.war(0, 70, 4, 1, 70, 4);
+        Due.tell(x, 3, "on 0 rest 1; on 1 rest 1; on 1 rest 0;");
+        x.days(1);
+        t.where(x, 0, 1, 4, 50);
+        t.where(x, 1, 1, 15, 60);
+        x.days(1);
+        t.where(x, 0, 1, 4, 60);
+        t.where(x, 1, 1, 15, 70);
+        x.days(1);
+        t.where(x, 0, 1, 8, 60);
+        t.where(x, 1, 1, 11, 70);
+    }
+
     // ---- (c)
 
-    /** MEN 0 (90), 1 (80), 2 (80) of COUNTRY 0 stand at CELL 0; 3 of COUNTRY 1 comes to them on DAY 4. */
-    private static OldestDown threeAtCellZero(int... breaths) {
-        OldestDown x = Due.war(0, 90, 1, 0, 80, 1, 0, 80, 1, 1, 70, 9);
-        x.set(3, 0, 3);
+    /** MEN 0 (90), 1 (80), 2 (80) of a COUNTRY stand at its end; 3 (70) of the other one comes to them on DAY 4. */
+    private static OldestDown threeAtTheEndOf(int c, int... breaths) {
+        OldestDown x = Due.war(c, 90, 1, c, 80, 1, c, 80, 1, 1 - c, 70, 9);
+        x.set(3, c, 3);
         Due.tell(x, 0, "step 0;");
         x.days(3);
-        Due.tell(x, 0, "step 0 when country = 0;");
+        Due.tell(x, 0, "step 0 when country = " + c + ";");
         x.days(1);
         for (int m = 0; m < 4; m++) x.set(5, m, breaths[m]);
         return x;
@@ -320,13 +335,15 @@ final class DaySentences {
 
     @Sentence(of = "Terms 3", says = "(c) CELL by CELL in which both are: the COUNTRY with the lesser sum of BREATH there is beaten:")
     static void theLesserSumIsBeaten(Due t) {
-        OldestDown x = threeAtCellZero(31, 20, 40, 92);
-        x.days(1);
-        t.due("91 against 92: 0 is beaten", x.country(0, 0), 0);
-        OldestDown y = threeAtCellZero(31, 20, 40, 90);
-        y.days(1);
-        t.due("91 against 90: 1 is beaten", y.of(3, 6), 2);
-        t.due("0 stays", y.country(0, 0), 3);
+        for (int c = 0; c < 2; c++) {
+            OldestDown x = threeAtTheEndOf(c, 31, 20, 40, 92);
+            x.days(1);
+            t.due("91 against 92: the three are beaten", x.country(c, 0), 0);
+            OldestDown y = threeAtTheEndOf(c, 31, 20, 40, 90);
+            y.days(1);
+            t.due("91 against 90: the one is beaten", y.of(3, 6), 2);
+            t.due("the three stay", y.country(c, 0), 3);
+        }
     }
 
     /** The next DAY MAN 0 goes to CELL 5, 3 comes to him; 1 goes to CELL 4, 2 to CELL 11. */
@@ -355,7 +372,7 @@ final class DaySentences {
 
     @Sentence(of = "Terms 3", says = "its youngest one there (of several the least) is CAPTIVE,")
     static void theYoungestIsCaptive(Due t) {
-        OldestDown x = threeAtCellZero(31, 20, 40, 92);
+        OldestDown x = threeAtTheEndOf(0, 31, 20, 40, 92);
         x.days(1);
         t.line(x, 4, 4, 1, 1, 0);
         OldestDown y = Due.war(0, 90, 1, 0, 80, 1, 0, 79, 1, 1, 70, 9);
@@ -378,14 +395,17 @@ final class DaySentences {
 
     @Sentence(of = "Terms 3", says = "all else of it go HOME, BREATH half of it;")
     static void theOthersGoHome(Due t) {
-        OldestDown x = threeAtCellZero(31, 20, 1, 53);
-        x.days(1);
-        t.line(x, 4, 4, 1, 1, 0);
-        t.line(x, 5, 4, 2, 0, 0);
-        t.line(x, 6, 4, 2, 2, 0);
-        t.where(x, 0, 0, -1, 15);
-        t.where(x, 2, 0, -1, 0);
-        t.due("the CAPTIVE, HOME by peace", x.of(1, 3), 20);
+        for (int c = 0; c < 2; c++) {
+            OldestDown x = threeAtTheEndOf(c, 31, 20, 1, 53);
+            x.days(1);
+            t.line(x, 4, 4, 1, 1, 15 * c);
+            t.line(x, 5, 4, 2, 0, 15 * c);
+            t.line(x, 6, 4, 2, 2, 15 * c);
+            t.where(x, 0, 0, -1, 15);
+            t.where(x, 2, 0, -1, 0);
+            t.due("the CAPTIVE, HOME by peace", x.of(1, 3), 20);
+            t.due("who beat them", x.of(3, 3), 43);
+        }
     }
 
     @Sentence(of = "Terms 3", says = "all else of it go HOME, BREATH half of it;")
@@ -400,7 +420,7 @@ final class DaySentences {
 
     @Sentence(of = "Terms 3", says = "of the other one there BREATH is 10 less (0 at least).")
     static void theOtherOneIsOutOfBreath(Due t) {
-        OldestDown x = threeAtCellZero(9, 10, 11, 29);
+        OldestDown x = threeAtTheEndOf(0, 9, 10, 11, 29);
         x.days(1);
         t.where(x, 0, 1, 0, 0);
         t.where(x, 1, 1, 0, 0);
@@ -416,14 +436,18 @@ final class DaySentences {
 
     @Sentence(of = "Terms 3", says = "Alike sums: all there have BREATH half of it, nothing else.")
     static void alikeSums(Due t) {
-        OldestDown x = threeAtCellZero(31, 20, 40, 91);
-        x.days(1);
-        t.where(x, 0, 1, 0, 15);
-        t.where(x, 1, 1, 0, 10);
-        t.where(x, 2, 1, 0, 20);
-        t.where(x, 3, 1, 0, 45);
-        t.due("calls alone", x.look(7), 4);
-        t.due("WAR", x.look(2), 1);
+        for (int c = 0; c < 2; c++) {
+            OldestDown x = threeAtTheEndOf(c, 31, 20, 40, 91);
+            x.days(1);
+            int[] halves = {15, 10, 20, 45};
+            for (int m = 0; m < 4; m++) t.where(x, m, 1, 15 * c, halves[m]);
+            t.due("calls alone", x.look(7), 4);
+            t.due("WAR", x.look(2), 1);
+        }
+    }
+
+    @Sentence(of = "Terms 3", says = "Alike sums: all there have BREATH half of it, nothing else.")
+    static void alikeSumsOfThoseThere(Due t) {
         OldestDown y = twoOfFourMeet();
         y.set(5, 0, 50);
         y.days(1);
@@ -553,7 +577,7 @@ final class DaySentences {
 
     @Sentence(of = "Terms 3", says = "MAN by MAN at HOME who tells others: each of them at HOME KNOWS all that he KNOWS, too")
     static void whoIsBeatenHomeIsToldThatDay(Due t) {
-        OldestDown x = threeAtCellZero(31, 20, 40, 92);
+        OldestDown x = threeAtTheEndOf(0, 31, 20, 40, 92);
         Due.tell(x, 0, "fade 0; step 0 when day < 7; step 0 when country = 0; step 9;");
         Due.tell(x, 1, "0 tells 2; 3 tells 0;");
         x.days(3);
@@ -614,6 +638,20 @@ final class DaySentences {
         for (int m = 0; m < 3; m++) t.due("KNOWS " + m, x.of(m, 4), 0);
         x.days(1);
         t.due("nobody KNOWS some", x.look(8), s);
+    }
+
+    @Sentence(of = "Terms 3", says = "(f) MAN by MAN who KNOWS some: a DRAW of 1000:")
+    static void drawsManByMan(Due t) {
+        // From STATE 0 the DRAWS of 1000 are 563, 577, 494, 947.
+        OldestDown x = Due.war(1, 20, 1, 0, 20, 1, 0, 20, 1, 1, 20, 1, 0, 20, 1);
+        for (int m : new int[] {0, 1, 3, 4}) x.teach(m, m);
+        Due.tell(x, 0, "fade 570;");
+        x.days(1);
+        int[] dues = {0, 2, 0, 0, 16};
+        for (int m = 0; m < 5; m++) t.due("KNOWS " + m, x.of(m, 4), dues[m]);
+        t.line(x, 0, 0, 3, 0, 0);
+        t.line(x, 1, 0, 3, 3, 3);
+        t.due("lines", x.look(7), 2);
     }
 
     @Sentence(of = "Terms 3", says = "below fade he forgets the least FACT that he KNOWS.")
@@ -876,7 +914,7 @@ final class DaySentences {
     @Sentence(of = "Terms 3", says = {"THE BOOK's lines in this order, 5 ahead of 4.",
         "DAY, what (0 called, 1 CAPTIVE, 2 beaten HOME, 3 forgot, 4 peace, 5 back from tea), the MAN (4: NONE), number (0, 1, 2: the CELL; 3: the FACT; else 0)."})
     static void allLinesOfOneDay(Due t) {
-        OldestDown x = threeAtCellZero(31, 20, 40, 99);
+        OldestDown x = threeAtTheEndOf(0, 31, 20, 40, 99);
         x.man(0, 70, 1);
         x.set(5, 4, 2);
         x.set(3, 0, 4);

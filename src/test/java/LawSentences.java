@@ -27,6 +27,24 @@ final class LawSentences {
         t.due("the 16th", x.of(0, STEP), 4);
     }
 
+    @Sentence(of = "Terms 2", says = "E of the first line with that word whose B is so, or that has none")
+    static void lastOfSixteenLinesWithB(Due t) {
+        OldestDown x = Due.men(0, 77, 6);
+        t.due("lines", Due.tell(x, 0, Due.times(15, "nap 1when 1=2;") + "nap 1+2*3when 1+2*3=7;"), 16);
+        t.due("the 16th", x.of(0, NAP), 7);
+    }
+
+    @Sentence(of = "Terms 2", says = "E of the first line with that word whose B is so, or that has none")
+    static void longLawsOneBehindAnother(Due t) {
+        OldestDown x = Due.men(0, 77, 6);
+        for (int i = 1; i <= 4; i++) {
+            t.due("lines", Due.tell(x, 0, "nap 9+" + Due.times(196, "0+") + i + ";"), 1);
+            t.due("the longest", x.of(0, NAP), 9 + i);
+            t.due("lines", Due.tell(x, 0, "nap 3 when age = 77; nap 4;"), 2);
+            t.due("a short one", x.of(0, NAP), 3);
+        }
+    }
+
     @Sentence(of = "Terms 2", says = "(none: call: AGE less 59, step: LEGS, nap 0, fade 50),")
     static void noLine(Due t) {
         int[] ages = {0, 58, 59, 60, 120};

@@ -346,6 +346,21 @@ final class PromiseSentences {
         t.due("ORDERS", x.country(1, 4), 0);
     }
 
+    @Sentence(of = "Promise 10", says = "The TAPE, empty then, is TEXT k: how many lines.")
+    static void textLeavesTheOthers(Due t) {
+        String[] lines = {"nap 7;", "0 tells 1;", "fact 0 weighs 9;", "on 0 rest 1;"};
+        for (int k = 0; k < 4; k++) {
+            OldestDown x = Due.many(2);
+            for (int j = 0; j < 4; j++) Due.tell(x, j, lines[j]);
+            t.due("lines of TEXT " + k, x.text(k), 0);
+            for (int j = 0; j < 4; j++) t.due("lines of TEXT " + j + " behind " + k, x.look(9 + j), j == k ? 0 : 1);
+            t.due("THE LAW behind " + k, x.of(0, 12), k == 0 ? 0 : 7);
+            t.due("TELLING behind " + k, x.of(0, 8), k == 1 ? 0 : 2);
+            t.due("WEIGHTS behind " + k, x.weight(0), k == 2 ? 1 : 9);
+            t.due("ORDERS behind " + k, x.country(1, 4), k == 3 ? 0 : 1);
+        }
+    }
+
     @Sentence(of = "Promise 10", says = "NONE: no such one (fault() tells 0),")
     static void noSuchText(Due t) {
         OldestDown x = new OldestDown();

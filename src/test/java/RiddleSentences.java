@@ -176,7 +176,10 @@ final class RiddleSentences {
         marching(t, marcher(1, 99), 12, 12, 39, 4095);
         marching(t, marcher(1, 99), 13, 12, -1, -1);
         for (int c : new int[] {-1, 16, LEAST, MOST}) marching(t, marcher(9, 99), c, 3, -1, -1);
-        for (int n : new int[] {-1, 0, 13, LEAST, MOST}) marching(t, marcher(9, 99), 3, n, -1, -1);
+        for (int n : new int[] {-1, 0, 13, LEAST, MOST}) {
+            marching(t, marcher(9, 99), 3, n, -1, -1);
+            marching(t, marcher(9, 99), 0, n, -1, -1);
+        }
     }
 
     @Sentence(of = "Terms 4", says = "each day he rests (BREATH 10 more, 99 at most),")

@@ -91,6 +91,12 @@ final class TextSentences {
         when(t, "2 * 3 + 1 = 1 + 3 * 2", true);
         when(t, "4096*4096*128 < 0", true);
         when(t, "4096*4096*128 - 1 > 0", true);
+        // The least of all and the most of all are further apart than an int can be.
+        when(t, "4096*4096*128 < 1", true);
+        when(t, "4096*4096*128 > 1", false);
+        when(t, "4096*4096*128 - 1 > 0 - 1", true);
+        when(t, "4096*4096*128 - 1 < 0 - 1", false);
+        when(t, "4096*4096*128 = 4096*4096*128 - 1 - 4096*4096*256", false);
         t.faulty(0, "nap 1 when 1 = 1 = 1;", 1, 17);
         t.faulty(0, "nap 1 when 1 < = 1;", 1, 15);
         t.faulty(0, "nap 1 when = 1;", 1, 11);
@@ -347,6 +353,7 @@ final class TextSentences {
         for (String word : new String[] {"napa", "napz", "anap", "zznap", "na", "n", "napnap", "notnap"}) {
             t.faulty(0, word + " 1;", 1, 0);
         }
+        for (char none : new char[] {'_', '`', '{', '@', '[', 0, 128, 192, 233, 255}) t.faulty(0, "nap" + none + " 1;", 1, 3);
         t.faulty(0, "nap age age;", 1, 8);
         t.faulty(0, "nap ageage;", 1, 4);
         t.faulty(0, "nap 1 when 1 = 1 an;", 1, 17);

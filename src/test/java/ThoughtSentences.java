@@ -145,6 +145,7 @@ final class ThoughtSentences {
         Due.tell(y, 0, "step 9 when country = 0; step 9 when day = 0; step 0;");
         y.days(1);
         t.due("CAPTIVE", y.of(0, 6), 2);
+        y.set(5, 0, 99);
         // Not 0, who is no longer at HOME; 2 beats the other one at CELL 9 and goes on.
         soon(t, y, 0, 2, 2);
     }
