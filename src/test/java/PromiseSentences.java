@@ -191,7 +191,7 @@ final class PromiseSentences {
 
     @Sentence(of = "Promise 6", says = "To SEND for one: true;")
     static void send(Due t) {
-        OldestDown x = DaySentences.withFront();
+        OldestDown x = BookSentences.withFront();
         t.due("send", x.send(2, 0, 20), true);
         int[] went = {0, 41, 3, 50, 0, 20, 1, 2};
         int[] came = {0, 40, 2, 50, 0, 10, 0, -1};
@@ -204,7 +204,7 @@ final class PromiseSentences {
 
     @Sentence(of = "Promise 6", says = "false if it can't be.")
     static void sendWrongly(Due t) {
-        OldestDown x = DaySentences.withFront();
+        OldestDown x = BookSentences.withFront();
         String was = Due.all(x);
         for (int m : new int[] {-1, 5, 12, LEAST, MOST}) {
             t.due("who: " + m, x.send(m, 0, 0), false);
