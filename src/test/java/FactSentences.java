@@ -296,6 +296,27 @@ final class FactSentences {
         t.line(x, 3, 20, 5, 0, 0);
     }
 
+    @Sentence(of = "Terms 3", says = "MAN by MAN a CAPTIVE comes HOME if DAY is TEA at least behind that on which he became one.")
+    static void captivesComeHomeManByMan(Due t) {
+        // 1, the older one, is called and CAPTIVE a DAY ahead of 0.
+        OldestDown x = Due.war(0, 65, 9, 0, 70, 9, 1, 90, 9);
+        Due.tell(x, 0, "step 9 when country = 0; step 9 when day = 0; step 0;");
+        x.set(5, 2, 99);
+        x.set(2, 0, 50);
+        x.days(2);
+        t.line(x, 2, 0, 1, 1, 9);
+        t.line(x, 4, 1, 1, 0, 9);
+        x.set(2, 0, 2);
+        x.days(1);
+        t.line(x, 5, 2, 5, 1, 0);
+        t.due("0 is kept yet", x.of(0, 6), 2);
+        x.undo();
+        x.set(2, 0, 1);
+        x.days(1);
+        t.line(x, 5, 2, 5, 0, 0);
+        t.line(x, 6, 2, 5, 1, 0);
+    }
+
     @Sentence(of = "Terms 3", says = "Has WAR become 0 in this DAY, all come HOME (one line of THE BOOK: 4).")
     static void allComeHome(Due t) {
         OldestDown x = Due.war(0, 70, 9, 1, 70, 9, 0, 65, 1);
