@@ -307,6 +307,21 @@ final class RiddleSentences {
         t.due("without MEN", new OldestDown().stands(1, 1), 0);
     }
 
+    @Sentence(of = "Terms 4", says = "one of it at HOME may go who is older than he,")
+    static void standsForNoneAsOldAsTheOldest(Due t) {
+        OldestDown x = Due.war(0, 60, 1, 0, 60, 1, 0, 59, 1, 0, 0, 1);
+        Due.tell(x, 0, "step 0;");
+        x.set(3, 0, 1);
+        x.days(1);
+        t.due("the oldest went", x.of(0, 6), 1);
+        standing(t, x, 0, 0, -1, -1, -1, -1);
+        Due.tell(x, 0, "call 1 when age = 0; call 0; step 0;");
+        x.set(3, 0, 2);
+        x.days(1);
+        t.due("the youngest, too", x.of(3, 6), 1);
+        standing(t, x, 1, 59, -1, -1, -1, 2);
+    }
+
     /** In the field 0 (30) and 1 (50), at HOME 2 (51), 3 (40) and 4 (50). */
     private static OldestDown oneOlderThanTheOldest() {
         OldestDown x = Due.war(0, 30, 1, 0, 50, 1, 0, 51, 1, 0, 40, 1, 0, 50, 1);

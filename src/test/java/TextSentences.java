@@ -406,6 +406,21 @@ final class TextSentences {
         t.faulty(0, "nap 1 when 1 == 1;", 1, 14);
     }
 
+    @Sentence(of = "Terms 2", says = "; + - * / ( ) < = > .")
+    static void bytesThatAreNoToken(Due t) {
+        for (char b = 0; b < 256; b++) {
+            boolean token = Character.isLetterOrDigit(b) && b < 128 || "; +-*/()<=>\n".indexOf(b) >= 0;
+            if (token) continue;
+            // Where a line, a word, a NUMBER or the end could stand.
+            t.faulty(0, "" + b, 1, 0);
+            t.faulty(0, "nap 1;" + b, 1, 6);
+            t.faulty(0, "nap " + b + ";", 1, 4);
+            t.faulty(1, b + " tells 1;", 1, 0);
+            t.faulty(2, "fact 1 weighs " + b + ";", 1, 14);
+            t.faulty(3, "on 1 " + b + " 1;", 1, 5);
+        }
+    }
+
     @Sentence(of = "Terms 2", says = "Blanks (32, 10) between.")
     static void blanks(Due t) {
         t.faultless(0, " \n ", 0);
